@@ -83,6 +83,7 @@ public final class PriceTest {
         m.tier(2, 3, 2, 50, 1, 1);
         m.tier(2, 3, 3, 51, 1, 1);
         Check.due("now the fifth", 0, m.tier(2, 3, 4, 1, 1, 1));
+        Check.due("the fifth, rising", 0, m.tier(2, 3, 4, 52, 1, 1));
         Check.due("a sixth", -2, m.tier(2, 3, 5, 100, 1, 1));
         Check.due("five", 5, m.tiers(2, 3, 5));
     }

@@ -97,6 +97,10 @@ public final class QuotaTest {
         Check.due("there were 200", -3, m.request(0, 1, 1));
         Check.due("there were 200, FULL before REFUSED", -3, m.request(0, 0, 1));
         Check.due("room does not look at FULL", 1000000, m.room(0, 1));
+        Check.due("the last hold", 0, m.hold(199, 4));
+        Check.due("none behind it", -2, m.hold(200, 4));
+        Check.due("none to settle behind it", -2, m.settle(200, 0, 1));
+        Check.due("none to drop behind it", -2, m.drop(200));
     }
 
     private static void settling() {
