@@ -502,7 +502,7 @@ public final class QuotaMeter {
         }
     }
 
-    /** Only keys that are not forgotten stand in it; they keep no order. */
+    /** Only keys that are not forgotten stand in it, so that how many it has is what the limit of keys is about. */
     private static final class KeyBook {
         final long[] keys = new long[KEYS];
         final int[] tenants = new int[KEYS];
