@@ -23,17 +23,20 @@ public final class RoomTest {
         Check.end();
     }
 
+    /** As full as 512 calls can make it. */
     private static QuotaMeter fullMeter() {
         QuotaMeter m = new QuotaMeter();
         for (int i = 0; i < 24; i++) {
             m.account(0, i - 1);
         }
-        for (int key = 0; key < 300; key++) {
+        for (int key = 0; key < 200; key++) {
             m.event(key, 23, key % 4, 1, 0);
         }
         for (int i = 0; i < 200; i++) {
             m.request(23, 0, 1);
-            m.drop(i);
+            if (i % 40 == 39) {
+                m.tick(60);
+            }
         }
         for (int i = 0; i < 9; i++) {
             m.tick(10000);
@@ -41,6 +44,7 @@ public final class RoomTest {
         for (int i = 0; i < 60; i++) {
             m.close(0);
         }
+        Check.due("it is full of holds", 0, m.hold(199, 4));
         Check.due("it is full of invoices", 60, m.count(4));
         return m;
     }
