@@ -1,36 +1,62 @@
+import com.sun.source.tree.CompilationUnitTree;
+import com.sun.source.util.JavacTask;
+import java.nio.charset.StandardCharsets;
 import java.nio.file.Files;
 import java.nio.file.Path;
-import java.util.regex.Matcher;
-import java.util.regex.Pattern;
+import java.util.List;
+import java.util.Map;
+import java.util.Set;
+import java.util.TreeSet;
+import javax.tools.JavaCompiler;
+import javax.tools.StandardJavaFileManager;
+import javax.tools.ToolProvider;
 
-/** What of ../shared/LANGUAGE.md can be seen in the text of the class alone. */
+/**
+ * The rules of ../shared/LANGUAGE.md that can be seen in the class's own tree, as the compiler reads it. Rules 7 and 13
+ * are seen in part: that no call throws or fails to end is tried by the other tests, which end if one does.
+ */
 public final class LanguageTest {
-    private static final String[] FORBIDDEN = {
-        "\\bthrow\\b", "\\bthrows\\b", "\\btry\\b", "\\bcatch\\b", "\\bsynchronized\\b", "\\bassert\\b", "->", "::", "\\bimport\\b",
-        "\\bpackage\\b", "\\brecord\\b", "Exact\\(", "\\bSystem\\.", "\\bdouble\\b", "\\bfloat\\b", "\\bhashCode\\b", "\\btoString\\b",
-        "\\bequals\\b", "\\bString\\b", "\\bObject\\b", "\\bstatic \\{"
-    };
+    private static final int DEEPEST_CALLS = 8;
+    private static final int MOST_CLASSES = 12;
 
     public static void main(String[] args) throws Exception {
-        String text = Files.readString(Path.of(args.length > 0 ? args[0] : "src/main/java/QuotaMeter.java"));
-        String code = text.replaceAll("(?s)/\\*.*?\\*/", "").replaceAll("//.*", "");
-        Check.holds("the class is there", code.contains("public final class QuotaMeter {"));
-        for (String word : FORBIDDEN) {
-            Check.holds("no " + word, !Pattern.compile(word).matcher(code).find());
+        Path file = Path.of(args.length > 0 ? args[0] : "src/main/java/QuotaMeter.java");
+        String text = Files.readString(file, StandardCharsets.UTF_8);
+        Check.holds("rule 3: characters 0 to 255 alone", text.chars().allMatch(c -> c < 256));
+        Check.holds("rule 3: no texts are in use, so none are joined or compared", text.indexOf('"') < 0);
+        LanguageScan scan = read(file);
+        Check.holds("rule 11: some twelve classes at most", scan.classes.size() <= MOST_CLASSES);
+        Check.holds("classes and methods were found", scan.classes.size() > 1 && scan.calls.size() > 24);
+        for (String method : scan.calls.keySet()) {
+            int depth = depthFrom(method, scan.calls, new TreeSet<>());
+            Check.holds("rules 8 and 11: no recursion, eight calls deep at most: " + method, depth <= DEEPEST_CALLS);
         }
-        shortMethods(code);
         Check.end();
     }
 
-    private static void shortMethods(String code) {
-        Matcher head = Pattern.compile("\\n( +)[\\w\\[\\] ]+\\([^;{}]*\\) \\{\\n").matcher(code);
-        int methods = 0;
-        while (head.find()) {
-            int end = code.indexOf("\n" + head.group(1) + "}\n", head.end() - 1);
-            long lines = code.substring(head.start(), Math.max(head.start(), end)).lines().count();
-            Check.holds("at most sixty lines:" + head.group().strip(), end > 0 && lines <= 60);
-            methods++;
+    private static LanguageScan read(Path file) throws Exception {
+        JavaCompiler compiler = ToolProvider.getSystemJavaCompiler();
+        try (StandardJavaFileManager files = compiler.getStandardFileManager(null, null, StandardCharsets.UTF_8)) {
+            List<String> options = List.of("--release", "17", "-proc:none");
+            JavacTask task = (JavacTask) compiler.getTask(null, files, null, options, null, files.getJavaFileObjects(file));
+            CompilationUnitTree unit = task.parse().iterator().next();
+            task.analyze();
+            LanguageScan scan = new LanguageScan(task, unit);
+            scan.scan(unit, null);
+            return scan;
         }
-        Check.holds("methods were found", methods > 23);
+    }
+
+    /** How many calls stand open at once at most, this one too; more than any bound if it comes back to itself. */
+    private static int depthFrom(String method, Map<String, Set<String>> calls, Set<String> open) {
+        if (!open.add(method)) {
+            return DEEPEST_CALLS + 1;
+        }
+        int deepest = 0;
+        for (String next : calls.getOrDefault(method, Set.of())) {
+            deepest = Math.max(deepest, depthFrom(next, calls, open));
+        }
+        open.remove(method);
+        return deepest + 1;
     }
 }
