@@ -1,4 +1,7 @@
+import java.util.List;
 import java.util.Random;
+import java.util.Set;
+import java.util.TreeSet;
 
 /** Runs of 512 calls by a fixed seed, each asked of the class and of the document written out plainly. */
 public final class RandomRunsTest {
@@ -7,19 +10,36 @@ public final class RandomRunsTest {
     private static final int KINDS = 23;
     /** How often each call comes, in the order of the document's face; a run is of one of these kinds. */
     private static final int[][] WEIGHTS = {
-        {8, 20, 60, 10, 40, 20, 6, 6, 12, 3, 6, 6, 10, 25, 6, 3, 5, 5, 8, 4, 3, 3, 3},
+        {30, 20, 60, 10, 40, 20, 6, 6, 12, 3, 6, 6, 10, 25, 6, 3, 5, 5, 8, 4, 3, 3, 3},
         {3, 15, 90, 0, 0, 0, 0, 6, 12, 2, 0, 5, 8, 40, 3, 0, 0, 0, 15, 5, 5, 2, 0},
         {6, 10, 20, 20, 90, 25, 8, 0, 0, 0, 0, 0, 0, 0, 5, 10, 15, 10, 0, 0, 0, 3, 0},
-        {1, 1, 250, 3, 12, 6, 3, 2, 2, 1, 1, 1, 1, 1, 6, 2, 2, 1, 1, 1, 1, 6, 1},
+        {1, 1, 300, 3, 12, 6, 3, 2, 2, 1, 1, 1, 1, 1, 6, 2, 2, 1, 1, 1, 1, 6, 1},
         {2, 40, 40, 0, 0, 0, 0, 4, 8, 2, 0, 10, 60, 60, 0, 0, 0, 0, 10, 5, 20, 2, 3},
-        {2, 40, 30, 3, 90, 20, 30, 0, 0, 0, 0, 0, 0, 0, 2, 5, 5, 20, 0, 0, 0, 5, 0}
+        {2, 40, 30, 3, 90, 20, 30, 0, 0, 0, 0, 0, 0, 0, 2, 5, 5, 20, 0, 0, 0, 5, 0},
+        {2, 40, 90, 0, 0, 0, 0, 8, 24, 2, 0, 8, 6, 60, 0, 0, 0, 0, 10, 5, 3, 0, 0}
     };
+    /** The kind in which so many keys come that some find no place. */
+    private static final int KEY_KIND = 3;
+    /** The kind in which adjustments are worth less than nothing, so that sums fall below 0. */
+    private static final int LATE_KIND = 6;
+
+    /** Every refusal that the document names for a call, and the two answers that it has besides for an event. */
+    private static final String[] TO_MEET = {
+        "account BAD FULL", "tick BAD FULL", "event 0 1 BAD EARLY LATE DUPLICATE FULL", "limit BAD", "request BAD FULL REFUSED",
+        "settle BAD DUPLICATE FULL", "drop BAD", "mode BAD", "tier BAD", "tiers BAD", "cost BAD", "terms BAD", "credit BAD FULL",
+        "close BAD EARLY FULL", "used BAD", "held BAD", "room BAD", "hold BAD", "line BAD", "invoice BAD", "left BAD", "count BAD",
+        "closed BAD"
+    };
+    private static final List<String> ANSWERS = List.of("1", "0", "NONE", "BAD", "FULL", "EARLY", "LATE", "DUPLICATE", "REFUSED");
+    private static final Set<String> MET = new TreeSet<>();
 
     private final Random random;
     private final int[] weights;
     private final int wild;
     private final int tenantsUsed;
     private final int longest;
+    private final boolean isLateKind;
+    private final boolean isKeyKind;
     private final QuotaMeter meter = new QuotaMeter();
     private final PlainMeter plain = new PlainMeter();
 
@@ -27,7 +47,9 @@ public final class RandomRunsTest {
         random = new Random(seed);
         weights = WEIGHTS[(int) (seed % WEIGHTS.length)];
         wild = 1 + random.nextInt(60);
-        tenantsUsed = 1 + random.nextInt(random.nextInt(6) + 1);
+        isLateKind = weights == WEIGHTS[LATE_KIND];
+        isKeyKind = weights == WEIGHTS[KEY_KIND];
+        tenantsUsed = 1 + random.nextInt(isLateKind ? 1 : random.nextInt(6) + 1);
         longest = new int[] {20, 100, 400, 1200, 3000}[random.nextInt(5)];
     }
 
@@ -35,6 +57,13 @@ public final class RandomRunsTest {
         for (int run = 0; run < RUNS; run++) {
             new RandomRunsTest(run).go(run);
         }
+        for (String call : TO_MEET) {
+            String[] words = call.split(" ");
+            for (int i = 1; i < words.length; i++) {
+                Check.holds("a run met " + words[0] + " " + words[i], MET.contains(words[0] + " " + words[i]));
+            }
+        }
+        Check.holds("a run met a sum below 0", MET.contains("sum below 0"));
         Check.end();
     }
 
@@ -60,6 +89,7 @@ public final class RandomRunsTest {
 
     private void compareInvoices(int run) {
         for (int i = 0; i < 60; i++) {
+            meetSum(i);
             for (int what = 0; what < 4; what++) {
                 Check.due("run " + run + " invoice(" + i + ", " + what + ")", plain.invoice(i, what), meter.invoice(i, what));
                 for (int line = 0; line < 22; line++) {
@@ -72,6 +102,17 @@ public final class RandomRunsTest {
             for (int credit = 0; credit < 41; credit++) {
                 Check.due("run " + run + " left(" + tenant + ", " + credit + ")", plain.left(tenant, credit), meter.left(tenant, credit));
             }
+        }
+    }
+
+    /** Usage and adjustments are the kinds 0 and 1. */
+    private void meetSum(int invoice) {
+        long sum = 0;
+        for (int line = 0; line < plain.invoice(invoice, 2) && plain.line(invoice, line, 0) < 2; line++) {
+            sum += plain.line(invoice, line, 3);
+        }
+        if (sum < 0) {
+            MET.add("sum below 0");
         }
     }
 
@@ -119,7 +160,7 @@ public final class RandomRunsTest {
     }
 
     private int units() {
-        int[] most = {3, 20, 1000, 1000000};
+        int[] most = isLateKind ? new int[] {3, 20, 40, 60} : new int[] {3, 20, 1000, 1000000};
         return in(1, most[random.nextInt(4)]);
     }
 
@@ -129,13 +170,13 @@ public final class RandomRunsTest {
     }
 
     private long key() {
-        return random.nextInt(3) == 0 ? number(0, 5) : random.nextLong();
+        return random.nextInt(isKeyKind ? 20 : 3) == 0 ? number(0, 5) : random.nextLong();
     }
 
     private int minute() {
         int now = plain.count(0);
         int[] back = {0, 1, now % 1000, now % 1000 + 1, 500, 501, -1};
-        return random.nextInt(3) == 0 ? now - back[random.nextInt(7)] : in(Math.max(0, now - 500), now);
+        return random.nextInt(isKeyKind ? 20 : 3) == 0 ? now - back[random.nextInt(7)] : in(Math.max(0, now - 500), now);
     }
 
     private int minutes() {
@@ -177,7 +218,7 @@ public final class RandomRunsTest {
                 tell(run, "settle", plain.settle(h, u, k), meter.settle(h, u, k), h, u, k);
             }
             case 6 -> { int h = someHold(); tell(run, "drop", plain.drop(h), meter.drop(h), h); }
-            case 7 -> { int m = in(0, 2); int s = in(1, random.nextInt(4) == 0 ? 100000 : 9); tell(run, "mode", plain.mode(t, r, m, s), meter.mode(t, r, m, s), t, r, m, s); }
+            case 7 -> { int m = isLateKind ? 1 : in(0, 2); int s = in(1, random.nextInt(4) == 0 ? 100000 : 9); tell(run, "mode", plain.mode(t, r, m, s), meter.mode(t, r, m, s), t, r, m, s); }
             case 8 -> askTier(run, t, r);
             case 9 -> { int n = in(1, 5); tell(run, "tiers", plain.tiers(t, r, n), meter.tiers(t, r, n), t, r, n); }
             case 10 -> { long n = number(0, random.nextBoolean() ? 10000000000L : 3000); tell(run, "cost", plain.cost(t, r, n), meter.cost(t, r, n), t, r, n); }
@@ -218,6 +259,10 @@ public final class RandomRunsTest {
     }
 
     private static void tell(int run, String call, long want, long got, long... arguments) {
+        int place = want > 1 || want < -7 ? -1 : (int) (1 - want);
+        if (place >= 0) {
+            MET.add(call + " " + ANSWERS.get(place));
+        }
         Check.due("run " + run + " " + call + java.util.Arrays.toString(arguments), want, got);
     }
 }
